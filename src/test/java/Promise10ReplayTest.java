@@ -61,6 +61,14 @@ public final class Promise10ReplayTest {
         due.is("waiting now", y.replay(), -1);
         y.program(0, Words.set(1, 3));
         due.is("an input not taken at the end", y.replay(), 1);
+
+        BackSteps z = Words.machine(1020, 0, Words.three(2, 1, 2, 2), Words.load(3, 0, 4), Words.HALT);
+        z.poke(2, 21);
+        z.poke(12, 5);
+        z.step(9);
+        due.is("numbers by hand before the oldest time", z.replay(), -1);
+        z.program(1, Words.load(3, 0, 5));
+        due.is("another word loaded", z.replay(), 2);
         due.end();
     }
 }
