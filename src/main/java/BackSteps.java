@@ -425,7 +425,9 @@ public final class BackSteps {
         void keep(Machine machine) {
             int cost = machine.costOfLatest();
             while (oldest < now && spent + cost > room) {
-                dropOldest();
+                spent -= costs[slot(oldest)];
+                oldest++;
+                gone++;
             }
             int k = slot(now);
             costs[k] = cost;
@@ -438,12 +440,6 @@ public final class BackSteps {
             sums[k] = machine.sumBefore;
             spent += cost;
             now++;
-        }
-
-        private void dropOldest() {
-            spent -= costs[slot(oldest)];
-            oldest++;
-            gone++;
         }
 
         void dropAll() {

@@ -5,10 +5,16 @@ final class Due {
     }
 
     private final String test;
+    private String sentence = "";
     private int wrong = 0;
 
     Due(String test) {
         this.test = test;
+    }
+
+    /** The sentence of the document that the answers from here on are due by; it is told with each wrong one. */
+    void says(String where, String sentence) {
+        this.sentence = ", " + where + " \"" + sentence + "\"";
     }
 
     void is(String call, long got, long want) {
@@ -46,6 +52,12 @@ final class Due {
         is(at + ", count(6)", x.count(6), state);
     }
 
+    void same(String call, String got, String want) {
+        if (!got.equals(want)) {
+            tell(call + ": it is" + got + ", due is" + want);
+        }
+    }
+
     void end() {
         if (wrong != 0) {
             System.out.println(test + ": " + wrong + " answers are not as due");
@@ -56,7 +68,7 @@ final class Due {
     private void tell(String text) {
         wrong++;
         if (wrong <= 20) {
-            System.out.println(test + ": " + text);
+            System.out.println(test + sentence + ": " + text);
         }
     }
 }

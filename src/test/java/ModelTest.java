@@ -1,6 +1,7 @@
 /** Long runs of calls, each answer compared with the model's; the calls are the same in every run of the test. */
 public final class ModelTest {
-    private static final int RUNS = 400;
+    private static final int RUNS = 500;
+    /** Nothing is promised of an object behind so many calls, so all else is asked of the model. */
     private static final int CALLS = 512;
     private static final int[] EDGES = {0, 1, -1, 7, 8, 63, 64, 255, 256, 263, 264, 268, 269, 2000, 2001,
         Integer.MAX_VALUE, Integer.MIN_VALUE};
@@ -8,11 +9,11 @@ public final class ModelTest {
     private long seed;
     private final BackSteps x;
     private final Model model;
-    private final int room;
+    private int calls = 0;
 
     private ModelTest(int run) {
         seed = 77L + run;
-        room = run % 3 == 0 ? below(30) : run % 3 == 1 ? any() : 900 + below(121);
+        int room = run % 3 == 0 ? below(30) : run % 3 == 1 ? any() : 900 + below(121);
         int every = run % 2 == 0 ? below(9) : any();
         x = new BackSteps(room, every);
         model = new Model(room, every);
@@ -39,8 +40,8 @@ public final class ModelTest {
     }
 
     private int time() {
-        int now = x.count(0);
-        int oldest = x.count(1);
+        int now = counted(0);
+        int oldest = counted(1);
         int pick = below(12);
         if (pick == 0) {
             return edge();
@@ -55,6 +56,10 @@ public final class ModelTest {
             return oldest;
         }
         return pick == 4 ? now : oldest + below(now - oldest + 1);
+    }
+
+    private int counted(int what) {
+        return Integer.parseInt(model.count(what));
     }
 
     private int index() {
@@ -77,6 +82,7 @@ public final class ModelTest {
     private String call(int kind, int a, int b, int c) {
         String got;
         String want;
+        calls++;
         switch (kind) {
             case 0: got = told(() -> x.program(a, b)); want = model.program(a, b); break;
             case 1: got = told(() -> x.input(a)); want = model.input(a); break;
@@ -112,27 +118,31 @@ public final class ModelTest {
     }
 
     private int heldNumber() {
-        int oldest = x.count(1);
-        return x.look(oldest + below(x.count(0) - oldest + 1), below(4));
+        int oldest = counted(1);
+        return Integer.parseInt(model.look(oldest + below(counted(0) - oldest + 1), below(4)));
     }
 
     private String run() {
         for (int i = 0; i < 64; i++) {
             call(0, i, word(), 0);
         }
-        for (int k = 0; k < CALLS; k++) {
-            String wrong = next();
+        while (calls < CALLS) {
+            String wrong = counted(6) == 1 || counted(6) == 2 ? goOn() : next();
             if (wrong != null) {
-                return "call " + k + ", " + wrong;
-            }
-            // A machine that stands would make the rest of the run dull: another word gets it going.
-            if (x.count(6) == 1 || x.count(6) == 2) {
-                int place = x.look(x.count(0), 264);
-                call(0, place, word(), 0);
-                call(4, Math.max(x.count(1), x.count(0) - 1 - below(5)), 0, 0);
+                return "call " + calls + ", " + wrong;
             }
         }
         return null;
+    }
+
+    /** A machine that stands would make the rest of the run dull: another word gets it going, if it goes back. */
+    private String goOn() {
+        if (below(3) != 0) {
+            return next();
+        }
+        String wrong = call(0, Integer.parseInt(model.look(counted(0), 264)), word(), 0);
+        int time = Math.max(counted(1), counted(0) - 1 - below(5));
+        return wrong != null || calls == CALLS ? wrong : call(4, time, 0, 0);
     }
 
     public static void main(String[] args) {

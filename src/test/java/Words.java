@@ -49,4 +49,23 @@ final class Words {
         }
         return x;
     }
+
+    /** A new object with the same word at all places. */
+    static BackSteps filled(int room, int every, int word) {
+        BackSteps x = new BackSteps(room, every);
+        for (int i = 0; i < 64; i++) {
+            x.program(i, word);
+        }
+        return x;
+    }
+
+    /** At time 1 a machine that stands at a place, with nothing earlier kept and all else as at first. */
+    static BackSteps standingAt(int place) {
+        BackSteps x = machine(1020, 0, jump(7, place));
+        x.poke(7, 1);
+        x.step(1);
+        x.poke(7, 0);
+        x.program(0, HALT);
+        return x;
+    }
 }
