@@ -131,8 +131,10 @@ public final class EdgesOfAskingTest {
         due.is("never written", x.wrote(0), -1);
         x.step(2);
         due.is("only jumps are kept", x.wrote(3), -1);
+        due.is("jumps write nothing", x.wrote(0), -1);
         BackSteps y = Words.machine(1020, 0, Words.set(1, 1), Words.put(1), Words.HALT);
         y.step(3);
+        due.is("outputs and halting write nothing", y.wrote(0), -1);
         y.back(0);
         due.is("its row went by going back", y.wrote(1), -1);
         y.step(1);
@@ -242,6 +244,38 @@ public final class EdgesOfAskingTest {
         due.is("a fault", z.replay(), -1);
         z.program(0, Words.word(15, 0, 0, 0, 0));
         due.is("a fault by another word", z.replay(), -1);
+    }
+
+    /** What replay answers when the word of a step to time 2 is another one. */
+    private static void other(String what, int word, int other, int want) {
+        BackSteps x = Words.machine(1020, 0, Words.take(1), word, Words.set(6, 1));
+        x.input(1);
+        x.input(1);
+        x.step(3);
+        x.program(1, other);
+        due.is(what, x.replay(), want);
+    }
+
+    private static void replayEverything() {
+        due.says("Promise 10", "everything is as it was at each time up to now");
+        int nothing = Words.set(2, 0);
+        other("a register", nothing, Words.set(2, 1), 2);
+        other("no register", Words.set(2, 1), Words.put(2), 2);
+        other("a register besides", Words.set(2, 0), Words.set(3, 1), 2);
+        other("the first memory word", nothing, Words.store(1, 0, 0), 2);
+        other("the last memory word", nothing, Words.store(1, 0, 255), 2);
+        other("no memory word", Words.store(1, 0, 255), nothing, 2);
+        other("the place", nothing, Words.jump(1, 2), 2);
+        other("an input more", nothing, Words.take(1), 2);
+        other("an input less", Words.take(1), nothing, 2);
+        other("an output more, with no other sum", nothing, Words.put(2), 2);
+        other("an output less, with no other sum", Words.put(2), nothing, 2);
+        other("the sum alone", Words.put(2), Words.put(1), 2);
+        other("halted", Words.jump(1, 0), Words.HALT, 2);
+        other("with a fault", Words.HALT, Words.fault(), 2);
+        other("halted, with no fault", Words.fault(), Words.HALT, 2);
+        other("not halted", Words.HALT, Words.jump(1, 0), 2);
+        other("all as it was", nothing, Words.jump(1, 1), -1);
     }
 
     private static void replayFirst() {
@@ -452,6 +486,7 @@ public final class EdgesOfAskingTest {
         whenNoPlace();
         replayNothing();
         replayAsItWas();
+        replayEverything();
         replayFirst();
         replayNotReached();
         replayChangesNothing();
