@@ -52,7 +52,7 @@ public final class ReadmeTest {
         due.is("a call with its answer: " + text, understood ? 1 : 0, 1);
         if (understood) {
             called.add(call.group(1));
-            due.same(text, answer(face.get(call.group(1)), numbers(call.group(2))), call.group(3));
+            due.same(text, " " + answer(face.get(call.group(1)), numbers(call.group(2))), " " + call.group(3));
         }
     }
 
